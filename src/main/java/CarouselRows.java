@@ -243,8 +243,12 @@ public final class CarouselRows {
         }
     }
 
+    private boolean isShelf(int shelf) {
+        return shelf >= 0 && shelf < places;
+    }
+
     private void needShelf(int shelf) {
-        if (shelf < 0 || shelf >= places) {
+        if (!isShelf(shelf)) {
             throw new NoSuchElementException("no such shelf");
         }
     }
@@ -288,7 +292,7 @@ public final class CarouselRows {
 
     private boolean canBeFetched(int unit) {
         int shelf = shelfOf[unit];
-        return shelf != NOWHERE && !isBlocked[shelf];
+        return isShelf(shelf) && !isBlocked[shelf];
     }
 
     private boolean isListed(int unit) {
@@ -339,6 +343,7 @@ public final class CarouselRows {
      */
     private static final class Planner {
         private static final int NONE = -1;
+        private static final int MORE_THAN_ANY_PLAN = MOST_PLACES * (MOST_ON_LIST + 1);
 
         private final int ring;
         private final int[] shelves = new int[MOST_ON_LIST];
@@ -372,7 +377,7 @@ public final class CarouselRows {
         private int order(int start, int most) {
             isExact = stops <= most;
             if (isExact) {
-                fewest = Integer.MAX_VALUE;
+                fewest = MORE_THAN_ANY_PLAN;
                 tryAll(0, start, 0);
             } else {
                 followRule(start);
@@ -417,7 +422,7 @@ public final class CarouselRows {
 
         private int nearest(int from) {
             int found = NONE;
-            int least = Integer.MAX_VALUE;
+            int least = MORE_THAN_ANY_PLAN;
             for (int i = 0; i < stops; i++) {
                 int way = distance(from, stopPlaces[i], ring);
                 if (!taken[i] && way < least) {

@@ -9,8 +9,8 @@ import java.util.NoSuchElementException;
  */
 public final class CarouselRowsModel {
     private static final int RUNS = 8000;
-    /** With the doors closed between and the questions at the end, a run stays within 512 calls. */
-    private static final int CALLS = 240;
+    /** With the doors set between and the questions at the end, a run stays within 512 calls. */
+    private static final int CALLS = 200;
 
     private static int wrong = 0;
     private static long seed = 20261115L;
@@ -446,7 +446,21 @@ public final class CarouselRowsModel {
                 return there.get(next(there.size()));
             }
         }
+        if (call == 2 && next(3) != 0) {
+            return unitThatLies(m);
+        }
         return number(20);
+    }
+
+    private static int unitThatLies(Model m) {
+        int begin = next(20);
+        for (int i = 0; i < 20; i++) {
+            int unit = (begin + i) % 20;
+            if (m.holder(unit) != null && !m.list.contains(unit)) {
+                return unit;
+            }
+        }
+        return begin;
     }
 
     private static void run(int number) {
@@ -456,11 +470,15 @@ public final class CarouselRowsModel {
         int calls = 1 + next(CALLS);
         for (int k = 0; k < calls; k++) {
             int call = OFTEN[next(OFTEN.length)];
+            // Lists are cleared seldom, or no long one would ever be planned.
+            if (call == 4 && next(8) != 0) {
+                call = 2;
+            }
             int a = first(call, m.row.size());
             int b = second(call, m.row.size(), m);
-            // Doors are left open seldom, or nothing would ever turn.
-            if (call == 1 && next(4) != 0) {
-                closeDoors(c, m);
+            // The doors are mostly as the call needs them, or nearly all calls would be refused.
+            if ((call == 1 || call == 5) && next(4) != 0) {
+                setDoors(c, m, call == 5);
             }
             String got = onClass(c, call, a, b);
             String want = onModel(m, call, a, b);
@@ -479,10 +497,10 @@ public final class CarouselRowsModel {
         }
     }
 
-    private static void closeDoors(CarouselRows c, Model m) {
+    private static void setDoors(CarouselRows c, Model m, boolean open) {
         for (int station = 0; station < 2; station++) {
-            c.door(station, false);
-            m.door(station, false);
+            c.door(station, open);
+            m.door(station, open);
         }
     }
 
